@@ -460,9 +460,10 @@ public final class SleeplessVillage {
             int start = place;
             int value = 0;
             int figures = 0;
-            for (; place < length && isFigure(letterHere()); place++) {
+            while (place < length && isFigure(letterHere())) {
                 figures++;
                 if (figures <= MOST_FIGURES) value = value * 10 + letterHere() - '0';
+                place++;
             }
             if (figures == 0) blame(MISPLACED, start);
             else if (figures > MOST_FIGURES || value < least || value > most) blame(BAD_NUMBER, start);
@@ -477,7 +478,7 @@ public final class SleeplessVillage {
         }
 
         private void skipBlanks() {
-            for (; place < length && letterHere() == ' '; place++) continue;
+            while (place < length && letterHere() == ' ') place++;
         }
 
         private int letterHere() {
@@ -708,8 +709,7 @@ public final class SleeplessVillage {
         int nightsOf(Contract terms, State now, int p) {
             if (!terms.hasWatcher(p) || terms.nightHours <= 0) return NONE;
             int tired = now.tired[p];
-            for (int h = 0; h < NIGHTS_TRIED * MOST_NIGHT_HOURS; h++) {
-                if (h >= NIGHTS_TRIED * terms.nightHours) break;
+            for (int h = 0; h < NIGHTS_TRIED * terms.nightHours; h++) {
                 tired = Math.min(MOST_TIRED, tired + terms.more[p]);
                 if (tired > terms.limit[p]) return h / terms.nightHours;
             }

@@ -80,7 +80,9 @@ public final class ContractTest {
         due.is("a text with a fault", -11, x.contract());
         due.are("told(6..16) behind a fault", Due.row(0, 3, 10, 14, 0, 0, 2, 0, 1, 1, 1), toldFrom(x, 6));
         due.is("an image behind a fault", 1, x.goBack(0));
-        x.hour(1, false);
+        x.hour(0, false);
+        due.is("sitting up ahead of another contract", 1, x.told(11));
+        due.is("coffee ahead of another contract", 0, x.coffee(0));
         Due.feed(x, "k2 1 2 3;p50 1 2 60;p7 1 1 1;");
         due.is("another contract", 2, x.contract());
         due.are("told(0..16) of another contract", Due.row(2, 1, 2, 3, 2, 0, 0, 0, 0, 0, 0, 0, 0, 0, 0, 0, 0), toldFrom(x, 0));
@@ -89,7 +91,11 @@ public final class ContractTest {
         due.is("images are gone", NOT, x.goBack(0));
         due.is("what could be undone is gone", NOT, x.undo());
         due.is("the seed stays", 77, x.seed(0));
-        x.hour(0, false);
+        x.hour(2, false);
+        x.hour(1, false);
+        x.hour(2, false);
+        x.coffee(0);
+        due.are("told(7), (10), (11), (13) just ahead", Due.row(3, 2, 0, 1), x.told(7), x.told(10), x.told(11), x.told(13));
         due.is("an empty text takes the contract away", 0, x.contract());
         due.are("told(0..16) without a contract", new int[17], toldFrom(x, 0));
         due.is("hour(0, false) without a contract", NOT, x.hour(0, false));
@@ -174,6 +180,11 @@ public final class ContractTest {
 
     private static void promise4Fault() {
         SleeplessVillage x = new SleeplessVillage();
+        Due.feed(x, "k1 0 0 0;p1 1 1 1;");
+        x.contract();
+        Due.feed(x, "k1 0 0 0");
+        due.is("contract() of a text shorter than the one ahead", -11, x.contract());
+        due.is("fault() of a text shorter than the one ahead", 8, x.fault());
         Due.feed(x, "k1 x");
         x.contract();
         due.is("fault()", 3, x.fault());

@@ -155,6 +155,8 @@ public final class DoneTest {
         x.coffee(0);
         x.rest(60);
         due.is("told(13) behind whole nights", 0, x.told(13));
+        x = Due.village("k1 1 1 0;p99 0 0 99;");
+        due.are("nights of one hour", Due.row(69, NOT, 0, 39), x.coffee(0), x.coffee(0), x.hour(1, false), x.coffee(0));
         x = Due.village("k6 1 1 0;p99 30 0 99;");
         x.rest(4);
         x.coffee(0);

@@ -68,7 +68,10 @@ public final class TriedTest {
         watchesAre("without watchers", Due.village("k2 0 0 0;"), NONE, NONE, NONE);
         watchesAre("of one who nods in the last hour", Due.village("k3 0 0 0;p0 5 1 14;"), NONE, NONE, NONE, NONE);
         watchesAre("of one who may be at N", Due.village("k3 0 0 0;p0 5 1 15;"), 15, 0, 0, 0);
-        SleeplessVillage x = Due.village("k1 0 0 0;p0 30 1 99;");
+        SleeplessVillage x = Due.village("k1 0 0 0;p99 30 0 99;p0 1 1 99;");
+        for (int h = 0; h < 9; h++) x.hour(1, false);
+        watchesAre("beside one who can't be more tired", x, 199, 1);
+        x = Due.village("k1 0 0 0;p0 30 1 99;");
         for (int h = 0; h < 9; h++) x.hour(1, false);
         watchesAre("of one who is tired out", x, NONE, NONE);
         x.rest(60);
@@ -102,6 +105,7 @@ public final class TriedTest {
         due.is("coffeeFor() where it helps nobody", 0, Due.village("k2 0 0 0;p0 1 0 99;p0 1 0 99;").coffeeFor());
         due.is("coffeeFor() of three", 2, Due.village(THREE).coffeeFor());
         SleeplessVillage x = Due.village("k2 0 0 0;p50 1 0 0;p20 20 0 39;p60 1 0 60;");
+        x.watches(0);
         // who is 50 nods with it too; 20 is 0: 1 nod less; 60 is 30: 2 nods less
         due.is("coffeeFor() where it helps most", 2, x.coffeeFor());
         x.coffee(2);
@@ -140,6 +144,8 @@ public final class TriedTest {
     private static void promise17Hold() {
         due.is("hold() without watchers", NONE, Due.village("k2 0 0 0;").hold());
         due.is("hold() of three", NONE, Due.village(THREE).hold());
+        due.is("hold() by the only one", 1, Due.village("k1 0 0 0;p0 1 0 9;").hold());
+        due.is("hold() of an only hour", NONE, Due.village("k1 0 0 0;p0 1 0 0;").hold());
         due.is("hold() by the least", 1, Due.village("k2 0 0 0;p0 1 0 9;p0 1 0 9;").hold());
         due.is("hold() by the second", 2, Due.village("k2 0 0 0;p9 1 0 9;p0 1 0 9;").hold());
         due.is("hold() at N", 4, Due.village("k6 0 0 0;p0 5 0 29;p0 6 0 30;p0 5 0 30;").hold());
@@ -174,6 +180,10 @@ public final class TriedTest {
         due.are("17 by 2 and 1, cut", Due.row(11, 5, 0), x.paid(0), x.paid(1), x.paid(2));
         for (int h = 0; h < 6; h++) x.hour(0, false);
         due.are("less than nothing is nothing", Due.row(0, 0, 0), x.paid(0), x.paid(1), x.paid(2));
+        x = Due.village("k3 1 9 0;p0 0 0 9;p9 0 0 0;s2;");
+        x.hour(3, false);
+        due.is("less than nothing is nothing to the only one", 0, x.paid(0));
+        x = Due.village("k3 10 3 0;p0 0 0 9;p0 0 0 9;p9 0 0 0;s4;");
         due.is("paid(-1)", UNKNOWN, x.paid(-1));
         x = Due.village("k1 99 0 0;p0 0 0 9;");
         for (int i = 0; i < 400; i++) x.drift(60);
