@@ -80,6 +80,8 @@ public final class ContractTest {
         due.is("a text with a fault", -11, x.contract());
         due.are("told(6..16) behind a fault", Due.row(0, 3, 10, 14, 0, 0, 2, 0, 1, 1, 1), toldFrom(x, 6));
         due.is("an image behind a fault", 1, x.goBack(0));
+        x.hour(1, false);
+        due.is("hours watched ahead of another contract", 1, x.watcher(0, 4));
         x.hour(0, false);
         due.is("sitting up ahead of another contract", 1, x.told(11));
         due.is("coffee ahead of another contract", 0, x.coffee(0));

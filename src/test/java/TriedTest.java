@@ -65,6 +65,10 @@ public final class TriedTest {
     }
 
     private static void promise13None() {
+        SleeplessVillage fewer = Due.village("k1 0 0 0;p1 1 0 99;p99 1 0 99;");
+        Due.feed(fewer, "k1 0 0 0;p1 1 0 99;");
+        fewer.contract();
+        watchesAre("where there were more ahead of this contract", fewer, 2, 0);
         watchesAre("without watchers", Due.village("k2 0 0 0;"), NONE, NONE, NONE);
         watchesAre("of one who nods in the last hour", Due.village("k3 0 0 0;p0 5 1 14;"), NONE, NONE, NONE, NONE);
         watchesAre("of one who may be at N", Due.village("k3 0 0 0;p0 5 1 15;"), 15, 0, 0, 0);
