@@ -1,11 +1,22 @@
+import java.util.function.Supplier;
+import java.util.function.ToIntFunction;
+
 /** Compares answers with those that are due and counts them; a test's main ends with close(). */
 final class Due {
     private final String title;
+    private String sentence = "";
+    private int sentences = 0;
     private int right = 0;
     private int wrong = 0;
 
     Due(String title) {
         this.title = title;
+    }
+
+    /** The document's words that the answers from here on look at; a wrong answer is told with them. */
+    void sentence(String words) {
+        sentence = " (" + words + ")";
+        sentences++;
     }
 
     void is(String call, long want, long got) {
@@ -14,7 +25,7 @@ final class Due {
             return;
         }
         wrong++;
-        System.out.println(title + ": " + call + " answered " + got + ", due is " + want);
+        System.out.println(title + sentence + ": " + call + " answered " + got + ", due is " + want);
     }
 
     /** The whole row of answers at once, each told by its place in the row. */
@@ -23,8 +34,16 @@ final class Due {
         for (int i = 0; i < want.length && i < got.length; i++) is(calls + " [" + i + "]", want[i], got[i]);
     }
 
+    /** An answer by which nothing may change: of two objects made alike, the one that is asked stays like the other. */
+    void leaves(String call, int want, Supplier<SleeplessVillage> maker, ToIntFunction<SleeplessVillage> asked) {
+        SleeplessVillage x = maker.get();
+        is(call, want, asked.applyAsInt(x));
+        are("all behind " + call, Whole.of(maker.get()), Whole.of(x));
+    }
+
     void close() {
-        System.out.println(title + ": " + right + " answers as due, " + wrong + " not");
+        String looked = sentences == 0 ? "" : " to " + sentences + " sentences";
+        System.out.println(title + ": " + right + " answers" + looked + " as due, " + wrong + " not");
         if (wrong != 0 || right == 0) System.exit(1);
     }
 
