@@ -41,6 +41,22 @@ final class Due {
         are("all behind " + call, Whole.of(maker.get()), Whole.of(x));
     }
 
+    /** What nodded() answers from 0 on, that nothing comes behind, and how many they are. */
+    void nodded(String what, SleeplessVillage x, int set, int... want) {
+        int[] got = new int[want.length];
+        for (int i = 0; i < got.length; i++) got[i] = x.nodded(set, i);
+        are("nodded(" + set + ", 0 ..) " + what, want, got);
+        is("nodded(" + set + ", one more) " + what, SleeplessVillage.NONE, x.nodded(set, want.length));
+        is("nodded(" + set + ", -1) " + what, want.length, x.nodded(set, SleeplessVillage.NONE));
+    }
+
+    /** What watches() answers from -1 on. */
+    void watches(String what, SleeplessVillage x, int... want) {
+        int[] got = new int[want.length];
+        for (int i = 0; i < got.length; i++) got[i] = x.watches(i - 1);
+        are("watches(-1 ..) " + what, want, got);
+    }
+
     void close() {
         String looked = sentences == 0 ? "" : " to " + sentences + " sentences";
         System.out.println(title + ": " + right + " answers" + looked + " as due, " + wrong + " not");

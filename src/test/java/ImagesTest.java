@@ -2,7 +2,7 @@
 public final class ImagesTest {
     private static final int UNKNOWN = SleeplessVillage.UNKNOWN, OUTSIDE = SleeplessVillage.OUTSIDE,
         NOT = SleeplessVillage.NOT;
-    private static final String THREE = "k3 10 7 5;p10 8 4 30;p0 12 6 25;p40 3 10 45;s1;s3;s4;s6;s0;";
+    private static final String THREE = Busy.THREE;
     private static final Due due = new Due("ImagesTest");
 
     public static void main(String[] args) {

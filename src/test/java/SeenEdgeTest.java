@@ -26,14 +26,6 @@ public final class SeenEdgeTest {
         due.close();
     }
 
-    private static void noddedAre(String what, SleeplessVillage x, int set, int... want) {
-        int[] got = new int[want.length];
-        for (int i = 0; i < got.length; i++) got[i] = x.nodded(set, i);
-        due.are("nodded(" + set + ", 0 ..) " + what, want, got);
-        due.is("nodded(" + set + ", one more) " + what, NONE, x.nodded(set, want.length));
-        due.is("nodded(" + set + ", -1) " + what, want.length, x.nodded(set, NONE));
-    }
-
     private static void seeBounds() {
         due.sentence("Promise 21: SEEN: how much. UNKNOWN");
         for (int s : Due.row(-1, 5, 7, 8, 32, LEAST, MOST)) due.leaves("see(" + s + ", true)", UNKNOWN, Busy::village, x -> x.see(s, true));
@@ -49,17 +41,17 @@ public final class SeenEdgeTest {
         due.sentence("Promise 21: FULL (8); SEEN (8 at most)");
         SleeplessVillage x = Due.village("k1 0 0 0;p0 0 0 0;p0 0 0 0;s1;s2;");
         for (int i = 1; i <= 7; i++) due.is("see(0, true) no. " + i, i, x.see(0, true));
-        noddedAre("by seven", x, 3, 1, 3);
+        due.nodded("by seven", x, 3, 1, 3);
         due.is("see(1, false) no. 8", 8, x.see(1, false));
-        noddedAre("by the eighth, too", x, 3, 1);
+        due.nodded("by the eighth, too", x, 3, 1);
         due.is("see(1, true) no. 9", FULL, x.see(1, true));
-        noddedAre("not by a ninth", x, 3, 1);
+        due.nodded("not by a ninth", x, 3, 1);
         due.is("told(14)", 8, x.told(14));
         due.leaves("see(0, true), 8 seen", FULL, Busy::withAllSeen, y -> y.see(0, true));
         due.leaves("see(2, false), 8 seen", FULL, Busy::withAllSeen, y -> y.see(2, false));
         due.is("tear()", 8, x.tear());
         due.is("see(1, true) anew", 1, x.see(1, true));
-        noddedAre("by the new one alone", x, 3, 2, 3);
+        due.nodded("by the new one alone", x, 3, 2, 3);
     }
 
     private static void noddedIndex() {
@@ -82,10 +74,10 @@ public final class SeenEdgeTest {
     private static void noddedOrder() {
         due.sentence("NODDED: SETS out of that SET; the i-th (fewest first, then rising)");
         SleeplessVillage x = Due.village(SIX);
-        noddedAre("of three", x, 7, 0, 1, 2, 4, 3, 5, 6, 7);
-        noddedAre("of two that are apart", x, 33, 0, 1, 32, 33);
-        noddedAre("of one", x, 16, 0, 16);
-        noddedAre("of nobody", x, 0, 0);
+        due.nodded("of three", x, 7, 0, 1, 2, 4, 3, 5, 6, 7);
+        due.nodded("of two that are apart", x, 33, 0, 1, 32, 33);
+        due.nodded("of one", x, 16, 0, 16);
+        due.nodded("of nobody", x, 0, 0);
         int[] size = {1, 6, 15, 20, 15, 6, 1};
         int i = 0;
         for (int fewest = 0; fewest <= 6; fewest++) {
@@ -103,22 +95,22 @@ public final class SeenEdgeTest {
         due.sentence("NODDED: by which all that is SEEN is so: how many; .. NONE");
         SleeplessVillage x = Due.village("k1 0 0 0;p0 0 0 0;p0 0 0 0;s1;s0;s3;");
         x.see(0, true);
-        noddedAre("his only one nodded", x, 3, 1, 3);
-        noddedAre("his only one is not on watch: nobody watched", x, 2, 2);
-        noddedAre("nobody is on watch", x, 0, 0);
+        due.nodded("his only one nodded", x, 3, 1, 3);
+        due.nodded("his only one is not on watch: nobody watched", x, 2, 2);
+        due.nodded("nobody is on watch", x, 0, 0);
         x.see(0, false);
-        noddedAre("he sat up and slept on", x, 3);
-        noddedAre("he sat up and slept on", x, 0);
+        due.nodded("he sat up and slept on", x, 3);
+        due.nodded("he sat up and slept on", x, 0);
         x.tear();
         x.see(1, false);
-        noddedAre("one without a SET slept on", x, 3, 0, 1, 2);
-        noddedAre("one without a SET slept on, nobody watched", x, 0);
+        due.nodded("one without a SET slept on", x, 3, 0, 1, 2);
+        due.nodded("one without a SET slept on, nobody watched", x, 0);
         x.tear();
         x.see(2, true);
-        noddedAre("both of his watched", x, 3, 3);
-        noddedAre("one of his watched", x, 1, 1);
+        due.nodded("both of his watched", x, 3, 3);
+        due.nodded("one of his watched", x, 1, 1);
         x.see(1, true);
-        noddedAre("and one without a SET sat up", x, 3, 3);
+        due.nodded("and one without a SET sat up", x, 3, 3);
     }
 
     private static void noddedSure() {

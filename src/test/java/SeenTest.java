@@ -2,7 +2,7 @@
 public final class SeenTest {
     private static final int NONE = SleeplessVillage.NONE, UNKNOWN = SleeplessVillage.UNKNOWN,
         OUTSIDE = SleeplessVillage.OUTSIDE, FULL = SleeplessVillage.FULL;
-    private static final String THREE = "k3 10 7 5;p10 8 4 30;p0 12 6 25;p40 3 10 45;s1;s3;s4;s6;s0;";
+    private static final String THREE = Busy.THREE;
     private static final Due due = new Due("SeenTest");
 
     public static void main(String[] args) {
@@ -29,19 +29,11 @@ public final class SeenTest {
         due.is("undone is nothing of it", 0, x.told(16));
     }
 
-    private static void noddedAre(String what, SleeplessVillage x, int set, int... want) {
-        int[] got = new int[want.length];
-        for (int i = 0; i < got.length; i++) got[i] = x.nodded(set, i);
-        due.are("nodded(" + set + ", 0 ..) " + what, want, got);
-        due.is("nodded(" + set + ", one more) " + what, NONE, x.nodded(set, want.length));
-        due.is("nodded(" + set + ", -1) " + what, want.length, x.nodded(set, NONE));
-    }
-
     private static void promise22Order() {
         SleeplessVillage x = Due.village(THREE);
-        noddedAre("fewest first, then rising", x, 7, 0, 1, 2, 4, 3, 5, 6, 7);
-        noddedAre("out of the set alone", x, 5, 0, 1, 4, 5);
-        noddedAre("of nobody", x, 0, 0);
+        due.nodded("fewest first, then rising", x, 7, 0, 1, 2, 4, 3, 5, 6, 7);
+        due.nodded("out of the set alone", x, 5, 0, 1, 4, 5);
+        due.nodded("of nobody", x, 0, 0);
         due.is("SURE of all", 0, x.nodded(7, -2));
         due.is("nodded(7, -3)", NONE, x.nodded(7, -3));
         due.is("nodded(7, -2147483648)", NONE, x.nodded(7, Integer.MIN_VALUE));
@@ -56,31 +48,31 @@ public final class SeenTest {
     private static void promise22Fitting() {
         SleeplessVillage x = Due.village(THREE);
         x.see(1, true);
-        noddedAre("if one of two guards sat up", x, 7, 3, 7);
+        due.nodded("if one of two guards sat up", x, 7, 3, 7);
         due.is("SURE", 3, x.nodded(7, -2));
-        noddedAre("with one guard alone on watch", x, 5, 1, 5);
-        noddedAre("without a guard on watch", x, 4, 4);
+        due.nodded("with one guard alone on watch", x, 5, 1, 5);
+        due.nodded("without a guard on watch", x, 4, 4);
         x.see(2, false);
-        noddedAre("and another slept on", x, 7, 3);
-        noddedAre("so that nothing fits", x, 4);
+        due.nodded("and another slept on", x, 7, 3);
+        due.nodded("so that nothing fits", x, 4);
         due.is("SURE without any", 0, x.nodded(4, -2));
-        noddedAre("with the hour watched by another", x, 6, 2);
+        due.nodded("with the hour watched by another", x, 6, 2);
         x.tear();
         x.see(4, true);
-        noddedAre("without guards at all he sits up only if it is not watched", x, 7, 7);
-        noddedAre("nobody watches", x, 0, 0);
+        due.nodded("without guards at all he sits up only if it is not watched", x, 7, 7);
+        due.nodded("nobody watches", x, 0, 0);
         due.is("SURE", 7, x.nodded(7, -2));
         x.see(4, false);
-        noddedAre("of what can't be", x, 7);
-        noddedAre("of what can't be", x, 0);
+        due.nodded("of what can't be", x, 7);
+        due.nodded("of what can't be", x, 0);
         x.tear();
         x.see(0, false);
-        noddedAre("where the only one did not", x, 1, 0);
+        due.nodded("where the only one did not", x, 1, 0);
         due.is("SURE of nobody", 0, x.nodded(1, -2));
         x.tear();
         x.see(4, false);
-        noddedAre("where the hour is watched", x, 3, 0, 1, 2);
-        noddedAre("where it can't be", x, 0);
+        due.nodded("where the hour is watched", x, 3, 0, 1, 2);
+        due.nodded("where it can't be", x, 0);
     }
 
     private static void promise22Refusals() {

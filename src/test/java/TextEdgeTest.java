@@ -280,6 +280,12 @@ public final class TextEdgeTest {
         }
         faulty(" ".repeat(219) + "k", 1, 220);
         faulty("k" + " ".repeat(219), 1, 220);
+        // letters of a longer text ahead are no part of this one
+        for (int cut = 1; cut < 9; cut++) {
+            SleeplessVillage x = Due.village(text);
+            Due.feed(x, text.substring(0, cut));
+            due.are("contract(), fault() of " + cut + " letters behind a longer text", Due.row(-11, cut), x.contract(), x.fault());
+        }
     }
 
     private static void firstFaultOfSeveral() {
@@ -391,6 +397,13 @@ public final class TextEdgeTest {
         SleeplessVillage fresh = Due.village(Busy.THREE);
         fresh.seed(seed);
         due.are("all as if it were the first contract", Whole.of(fresh), Whole.of(x));
+        String fewer = "k2 1 2 3;p1 1 0 40;s1;";
+        x = Busy.withoutText();
+        Due.feed(x, fewer);
+        due.is("contract() with fewer watchers and sleepers", 1, x.contract());
+        fresh = Due.village(fewer);
+        fresh.seed(seed);
+        due.are("all as if there never were more", Whole.of(fresh), Whole.of(x));
         x = Busy.withoutText();
         due.is("contract() of no text", 0, x.contract());
         SleeplessVillage bare = new SleeplessVillage();

@@ -35,12 +35,6 @@ public final class TriedEdgeTest {
         due.close();
     }
 
-    private static void watchesAre(String what, SleeplessVillage x, int... want) {
-        int[] got = new int[want.length];
-        for (int i = 0; i < got.length; i++) got[i] = x.watches(i - 1);
-        due.are("watches(-1 ..) " + what, want, got);
-    }
-
     private static SleeplessVillage night(int h, String rest) {
         return Due.village("k" + h + " 0 0 0;" + rest);
     }
@@ -73,53 +67,53 @@ public final class TriedEdgeTest {
 
     private static void watchesAtN() {
         due.sentence("WATCHES: so that nobody NODS");
-        watchesAre("at N", night(1, "p4 1 0 5;"), 5, 0);
-        watchesAre("above N", night(1, "p5 1 0 5;"), NONE, NONE);
-        watchesAre("at N in the last hour", night(6, "p0 3 0 18;"), 18, 0, 0, 0, 0, 0, 0);
-        watchesAre("above N in the last hour", night(6, "p0 3 0 17;"), NONE, NONE, NONE, NONE, NONE, NONE, NONE);
-        watchesAre("above N in rest is no nod", night(2, "p50 1 1 0;p0 1 1 9;"), 48, 1, 1);
-        watchesAre("by resting between", night(3, "p0 5 5 5;p1 4 4 5;"), 5, 0, 1, 0);
-        watchesAre("at once above N, then rested", night(2, "p9 1 4 6;p0 5 1 5;"), 6, 1, 0);
+        due.watches("at N", night(1, "p4 1 0 5;"), 5, 0);
+        due.watches("above N", night(1, "p5 1 0 5;"), NONE, NONE);
+        due.watches("at N in the last hour", night(6, "p0 3 0 18;"), 18, 0, 0, 0, 0, 0, 0);
+        due.watches("above N in the last hour", night(6, "p0 3 0 17;"), NONE, NONE, NONE, NONE, NONE, NONE, NONE);
+        due.watches("above N in rest is no nod", night(2, "p50 1 1 0;p0 1 1 9;"), 48, 1, 1);
+        due.watches("by resting between", night(3, "p0 5 5 5;p1 4 4 5;"), 5, 0, 1, 0);
+        due.watches("at once above N, then rested", night(2, "p9 1 4 6;p0 5 1 5;"), 6, 1, 0);
     }
 
     private static void watchesNone() {
         due.sentence("WATCHES: .. NONE");
-        watchesAre("without watchers", night(6, ""), NONE, NONE, NONE, NONE, NONE, NONE, NONE);
-        watchesAre("without watchers, with sleepers", night(1, "s0;"), NONE, NONE);
-        watchesAre("where all nod at once", night(1, "p1 0 0 0;".repeat(6)), NONE, NONE);
-        watchesAre("where all but the last nod at once", night(1, "p1 0 0 0;".repeat(5) + "p0 0 0 0;"), 1, 5);
-        watchesAre("where each can once, five for six hours", night(6, "p0 1 0 1;".repeat(5)), NONE, NONE, NONE, NONE, NONE, NONE, NONE);
-        watchesAre("where each can once, six for six hours", night(6, "p0 1 0 1;".repeat(6)), 1, 0, 1, 2, 3, 4, 5);
+        due.watches("without watchers", night(6, ""), NONE, NONE, NONE, NONE, NONE, NONE, NONE);
+        due.watches("without watchers, with sleepers", night(1, "s0;"), NONE, NONE);
+        due.watches("where all nod at once", night(1, "p1 0 0 0;".repeat(6)), NONE, NONE);
+        due.watches("where all but the last nod at once", night(1, "p1 0 0 0;".repeat(5) + "p0 0 0 0;"), 1, 5);
+        due.watches("where each can once, five for six hours", night(6, "p0 1 0 1;".repeat(5)), NONE, NONE, NONE, NONE, NONE, NONE, NONE);
+        due.watches("where each can once, six for six hours", night(6, "p0 1 0 1;".repeat(6)), 1, 0, 1, 2, 3, 4, 5);
     }
 
     private static void watchesByTheEnd() {
         due.sentence("WATCHES: the one by which the greatest TIRED behind all is least");
         // who is 9 in the first hour is rested at the end
-        watchesAre("not the greatest between", night(2, "p0 9 9 9;p4 2 0 7;"), 6, 0, 1);
-        watchesAre("of those who do not watch, too", night(1, "p0 1 0 9;p50 1 0 9;"), 50, 0);
-        watchesAre("where it takes the last one", night(1, "p5 5 0 99;p5 4 0 99;p5 3 0 99;p5 2 0 99;p5 1 0 99;p5 0 0 99;"), 5, 5);
-        watchesAre("where all else is one worse", night(2, "p0 4 0 99;p0 3 0 99;"), 4, 0, 1);
+        due.watches("not the greatest between", night(2, "p0 9 9 9;p4 2 0 7;"), 6, 0, 1);
+        due.watches("of those who do not watch, too", night(1, "p0 1 0 9;p50 1 0 9;"), 50, 0);
+        due.watches("where it takes the last one", night(1, "p5 5 0 99;p5 4 0 99;p5 3 0 99;p5 2 0 99;p5 1 0 99;p5 0 0 99;"), 5, 5);
+        due.watches("where all else is one worse", night(2, "p0 4 0 99;p0 3 0 99;"), 4, 0, 1);
     }
 
     private static void watchesOfLikeOnes() {
         due.sentence("WATCHES: of like ones the first (HOUR by HOUR the lesser WATCHER)");
-        watchesAre("where all are alike", night(6, "p0 0 0 0;".repeat(6)), 0, 0, 0, 0, 0, 0, 0);
-        watchesAre("in turn", night(2, "p0 2 0 9;p0 2 0 9;"), 2, 0, 1);
-        watchesAre("of three for two hours", night(2, "p0 2 0 9;p0 2 0 9;p0 2 0 9;"), 2, 0, 1);
-        watchesAre("where a third one sets the end", night(2, "p0 1 0 9;p0 1 0 9;p20 1 0 9;"), 20, 0, 0);
+        due.watches("where all are alike", night(6, "p0 0 0 0;".repeat(6)), 0, 0, 0, 0, 0, 0, 0);
+        due.watches("in turn", night(2, "p0 2 0 9;p0 2 0 9;"), 2, 0, 1);
+        due.watches("of three for two hours", night(2, "p0 2 0 9;p0 2 0 9;p0 2 0 9;"), 2, 0, 1);
+        due.watches("where a third one sets the end", night(2, "p0 1 0 9;p0 1 0 9;p20 1 0 9;"), 20, 0, 0);
         // the first hour decides: 0 then 2 comes ahead of 1 then 0
-        watchesAre("by the first hour", night(2, "p0 3 0 9;p1 2 0 9;p2 1 0 9;"), 3, 0, 1);
+        due.watches("by the first hour", night(2, "p0 3 0 9;p1 2 0 9;p2 1 0 9;"), 3, 0, 1);
     }
 
     private static void watchesAtTheBoundsOfTired() {
         due.sentence("WATCHES by TIRED of 0 at least, 199 at most");
-        watchesAre("all end at 0", night(2, "p0 0 30 0;p29 0 30 0;"), 0, 0, 0);
+        due.watches("all end at 0", night(2, "p0 0 30 0;p29 0 30 0;"), 0, 0, 0);
         SleeplessVillage x = tiredOut("k1 0 0 0;p99 30 0 99;p0 1 0 99;");
-        watchesAre("beside one at 199", x, 199, 1);
+        due.watches("beside one at 199", x, 199, 1);
         x = tiredOut("k1 0 0 0;p99 30 1 99;p0 1 0 99;");
-        watchesAre("beside one who rests at 199", x, 198, 1);
+        due.watches("beside one who rests at 199", x, 198, 1);
         x = tiredOut("k1 0 0 0;p99 30 1 99;");
-        watchesAre("of one at 199", x, NONE, NONE);
+        due.watches("of one at 199", x, NONE, NONE);
     }
 
     private static void bellHourBounds() {
@@ -235,7 +229,7 @@ public final class TriedEdgeTest {
     }
 
     private static void holdBounds() {
-        due.sentence("HOLD: the fewest WATCHERS (a SET, of like ones the least)");
+        due.sentence("Promise 17: HOLD; NONE. NOT: no CONTRACT; the fewest WATCHERS (a SET, of like ones the least)");
         due.leaves("hold(), no contract", NOT, Busy::withoutContract, x -> x.hold());
         due.leaves("hold()", 4, Busy::village, x -> x.hold());
         for (int last = 0; last < 6; last++) {

@@ -2,7 +2,7 @@
 public final class TriedTest {
     private static final int NONE = SleeplessVillage.NONE, UNKNOWN = SleeplessVillage.UNKNOWN,
         OUTSIDE = SleeplessVillage.OUTSIDE, NOT = SleeplessVillage.NOT;
-    private static final String THREE = "k3 10 7 5;p10 8 4 30;p0 12 6 25;p40 3 10 45;s1;s3;s4;s6;s0;";
+    private static final String THREE = Busy.THREE;
     private static final Due due = new Due("TriedTest");
 
     public static void main(String[] args) {
@@ -36,53 +36,47 @@ public final class TriedTest {
         due.is("blink(0, 61, 0)", UNKNOWN, x.blink(0, 61, 0));
     }
 
-    private static void watchesAre(String what, SleeplessVillage x, int... want) {
-        int[] got = new int[want.length];
-        for (int i = 0; i < got.length; i++) got[i] = x.watches(i - 1);
-        due.are("watches(-1 ..) " + what, want, got);
-    }
-
     private static void promise13Watches() {
         SleeplessVillage x = Due.village(THREE);
-        watchesAre("of three", x, 18, 1, 0, 1, NONE);
+        due.watches("of three", x, 18, 1, 0, 1, NONE);
         due.is("watches(-2)", NONE, x.watches(-2));
         due.is("watches(-2147483648)", NONE, x.watches(Integer.MIN_VALUE));
         due.is("watches(2147483647)", NONE, x.watches(Integer.MAX_VALUE));
         // one has to go on though he ends as the most tired: 5, 10, 15
-        watchesAre("of one", Due.village("k3 0 0 0;p0 5 1 15;"), 15, 0, 0, 0);
+        due.watches("of one", Due.village("k3 0 0 0;p0 5 1 15;"), 15, 0, 0, 0);
         // it is the end that counts, not what was between: the first is 9 in hour 0, 0 at the end
-        watchesAre("by the end", Due.village("k2 0 0 0;p0 9 9 9;p4 2 0 7;"), 6, 0, 1);
+        due.watches("by the end", Due.village("k2 0 0 0;p0 9 9 9;p4 2 0 7;"), 6, 0, 1);
         // one who can't watch counts with his tired all the same
-        watchesAre("beside a tired one", Due.village("k2 0 0 0;p90 1 4 80;p0 1 1 9;"), 82, 1, 1);
+        due.watches("beside a tired one", Due.village("k2 0 0 0;p90 1 4 80;p0 1 1 9;"), 82, 1, 1);
     }
 
     private static void promise13FirstOfLikeOnes() {
-        watchesAre("of like ones", Due.village("k4 0 0 0;p0 0 0 0;p0 0 0 0;p0 0 0 0;"), 0, 0, 0, 0, 0, NONE);
-        watchesAre("by the least end", Due.village("k2 0 0 0;p0 2 9 9;p0 2 9 9;"), 2, 0, 1);
-        watchesAre("in turn", Due.village("k2 0 0 0;p0 2 1 9;p0 2 1 9;"), 2, 0, 1);
-        watchesAre("where the first has to wait", Due.village("k2 0 0 0;p9 1 9 9;p0 9 9 9;"), 1, 1, 0);
-        watchesAre("of six", Due.village("k6 0 0 0;p0 1 0 9;p0 1 0 9;p0 1 0 9;p0 1 0 9;p0 1 0 9;p0 1 0 9;"), 1, 0, 1, 2, 3, 4, 5);
+        due.watches("of like ones", Due.village("k4 0 0 0;p0 0 0 0;p0 0 0 0;p0 0 0 0;"), 0, 0, 0, 0, 0, NONE);
+        due.watches("by the least end", Due.village("k2 0 0 0;p0 2 9 9;p0 2 9 9;"), 2, 0, 1);
+        due.watches("in turn", Due.village("k2 0 0 0;p0 2 1 9;p0 2 1 9;"), 2, 0, 1);
+        due.watches("where the first has to wait", Due.village("k2 0 0 0;p9 1 9 9;p0 9 9 9;"), 1, 1, 0);
+        due.watches("of six", Due.village("k6 0 0 0;p0 1 0 9;p0 1 0 9;p0 1 0 9;p0 1 0 9;p0 1 0 9;p0 1 0 9;"), 1, 0, 1, 2, 3, 4, 5);
     }
 
     private static void promise13None() {
         SleeplessVillage fewer = Due.village("k1 0 0 0;p1 1 0 99;p99 1 0 99;");
         Due.feed(fewer, "k1 0 0 0;p1 1 0 99;");
         fewer.contract();
-        watchesAre("where there were more ahead of this contract", fewer, 2, 0);
-        watchesAre("without watchers", Due.village("k2 0 0 0;"), NONE, NONE, NONE);
-        watchesAre("of one who nods in the last hour", Due.village("k3 0 0 0;p0 5 1 14;"), NONE, NONE, NONE, NONE);
-        watchesAre("of one who may be at N", Due.village("k3 0 0 0;p0 5 1 15;"), 15, 0, 0, 0);
+        due.watches("where there were more ahead of this contract", fewer, 2, 0);
+        due.watches("without watchers", Due.village("k2 0 0 0;"), NONE, NONE, NONE);
+        due.watches("of one who nods in the last hour", Due.village("k3 0 0 0;p0 5 1 14;"), NONE, NONE, NONE, NONE);
+        due.watches("of one who may be at N", Due.village("k3 0 0 0;p0 5 1 15;"), 15, 0, 0, 0);
         SleeplessVillage x = Due.village("k1 0 0 0;p99 30 0 99;p0 1 1 99;");
         for (int h = 0; h < 9; h++) x.hour(1, false);
-        watchesAre("beside one who can't be more tired", x, 199, 1);
+        due.watches("beside one who can't be more tired", x, 199, 1);
         x = Due.village("k1 0 0 0;p0 30 1 99;");
         for (int h = 0; h < 9; h++) x.hour(1, false);
-        watchesAre("of one who is tired out", x, NONE, NONE);
+        due.watches("of one who is tired out", x, NONE, NONE);
         x.rest(60);
-        watchesAre("of one who is rested", x, NONE, NONE);
+        due.watches("of one who is rested", x, NONE, NONE);
         x.rest(60);
         x.rest(30);
-        watchesAre("of one who is rested well", x, 79, 0);
+        due.watches("of one who is rested well", x, 79, 0);
     }
 
     private static void promise14BellHour() {
