@@ -397,10 +397,10 @@ public final class TextEdgeTest {
         SleeplessVillage fresh = Due.village(Busy.THREE);
         fresh.seed(seed);
         due.are("all as if it were the first contract", Whole.of(fresh), Whole.of(x));
-        String fewer = "k2 1 2 3;p1 1 0 40;s1;";
+        String fewer = "k2 1 2 3;p1 1 0 40;p1 1 0 40;s1;";
         x = Busy.withoutText();
         Due.feed(x, fewer);
-        due.is("contract() with fewer watchers and sleepers", 1, x.contract());
+        due.is("contract() with fewer watchers and sleepers", 2, x.contract());
         fresh = Due.village(fewer);
         fresh.seed(seed);
         due.are("all as if there never were more", Whole.of(fresh), Whole.of(x));
