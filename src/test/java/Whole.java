@@ -1,6 +1,9 @@
 import java.util.Arrays;
 
-/** All that calls can show of an object, so that two can be compared; reading it uses the object up. */
+/**
+ * What calls show of an object, so that two can be compared; reading it uses the object up. Of the book it has the count
+ * and what judge() answers now and behind each undo(): no call lists the entries.
+ */
 final class Whole {
     private static final int NONE = SleeplessVillage.NONE;
     private final SleeplessVillage x;
