@@ -34,8 +34,11 @@ final class Busy {
         return x;
     }
 
+    /** With less to undo: all its letters and all that is read of it have to come within 512 calls. */
     static SleeplessVillage withFullText() {
         SleeplessVillage x = withoutText();
+        x.undo();
+        x.undo();
         Due.feed(x, "k2 1 2 3;" + " ".repeat(210) + "p");
         return x;
     }

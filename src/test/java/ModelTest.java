@@ -36,13 +36,14 @@ public final class ModelTest {
     private static void textsAlone() {
         for (int i = 0; i < 400; i++) {
             ModelTest test = new ModelTest(RUNS + i);
-            for (int j = 0; j < 10; j++) test.tell(test.spoiled(test.wholeText()));
+            for (int j = 0; j < 10 && test.calls < CALLS; j++) test.tell(test.spoiled(test.wholeText()));
         }
     }
 
+    /** Behind the last call that is promised both go on, but what they answer is free. */
     private void same(String call, int want, int got) {
         calls++;
-        due.is("run " + run + ", call " + calls + ": " + call, want, got);
+        if (calls <= CALLS) due.is("run " + run + ", call " + calls + ": " + call, want, got);
     }
 
     private void tell(String text) {

@@ -54,11 +54,13 @@ final class Whole {
 
     private void readContract() {
         for (int p = 0; p < watchers; p++) for (int what = 1; what <= 3; what++) note(x.watcher(p, what));
-        for (int s = 0; s < x.told(5); s++) note(x.sleeper(s));
+        int sleepers = x.told(5);
+        for (int s = 0; s < sleepers; s++) note(x.sleeper(s));
     }
 
     private void readTried() {
-        for (int i = NONE; i < x.told(0); i++) note(x.watches(i));
+        int hours = x.told(0);
+        for (int i = NONE; i < hours; i++) note(x.watches(i));
         note(x.bellHour(0));
         note(x.bellHour(1));
         note(x.coffeeFor());
